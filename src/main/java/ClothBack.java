@@ -15,6 +15,8 @@ public final class ClothBack {
     private static final int MOST_BEAR = 400;
     private static final int MOST_CELLS = 48;
     private static final int UNKNOWN_SHADE = 50;
+    // More than any sum of colours, lights or differences can be.
+    private static final int FAR = 1000000;
 
     private final Tape tape;
     private final ClothReader reader;
@@ -1356,12 +1358,21 @@ public final class ClothBack {
             }
         }
 
-        int takenOf(int thread, int c) {
-            return taken[yarn.one[thread] * 3 + c] + taken[yarn.two[thread] * 3 + c];
+        int shadeOf(int thread, int c) {
+            return Math.max(0, 99 - taken[yarn.one[thread] * 3 + c] - taken[yarn.two[thread] * 3 + c]);
         }
 
-        int shadeOf(int thread, int c) {
-            return Math.max(0, 99 - takenOf(thread, c));
+        /** Whether a THREAD takes away of each colour what three bounds from a place on allow. */
+        boolean keepsWithin(int thread, int[] least, int[] most, int from) {
+            int one = yarn.one[thread] * 3;
+            int two = yarn.two[thread] * 3;
+            for (int c = 0; c < 3; c++) {
+                int both = taken[one + c] + taken[two + c];
+                if (both < least[from + c] || both > most[from + c]) {
+                    return false;
+                }
+            }
+            return true;
         }
     }
 
@@ -1434,7 +1445,7 @@ public final class ClothBack {
             int slack = yarn.cloth.slack;
             if (sights < MOST_SIGHTS) {
                 takenLeast[sights * 3 + c] = 99 - shade - slack;
-                takenMost[sights * 3 + c] = shade > slack ? 99 - shade + slack : Integer.MAX_VALUE;
+                takenMost[sights * 3 + c] = shade > slack ? 99 - shade + slack : FAR;
             }
         }
 
@@ -1446,22 +1457,12 @@ public final class ClothBack {
             }
         }
 
-        private void narrow(int bit, int sight) {
+        private void narrow(int bit, int from) {
             for (int thread = 0; thread < yarn.threads; thread++) {
-                if ((years[thread] & bit) != 0 && !isAllowed(thread, sight)) {
+                if ((years[thread] & bit) != 0 && !palette.keepsWithin(thread, takenLeast, takenMost, from)) {
                     years[thread] &= ~bit;
                 }
             }
-        }
-
-        private boolean isAllowed(int thread, int sight) {
-            for (int c = 0; c < 3; c++) {
-                int taken = palette.takenOf(thread, c);
-                if (taken < takenLeast[sight + c] || taken > takenMost[sight + c]) {
-                    return false;
-                }
-            }
-            return true;
         }
 
         private void sumUp() {
@@ -1522,6 +1523,9 @@ public final class ClothBack {
 
     /** What hairs would show under the lamp. */
     private static final class Hairs {
+        // Twice as often as 3420 pairs can be halved.
+        private static final int MOST_LEVELS = 24;
+
         private final int[] shown = new int[Yarn.MOST_THREADS * (Cloth.MOST_MENDERS + 1)];
         private int many;
 
@@ -1574,7 +1578,8 @@ public final class ClothBack {
         private void sink(int top, int size) {
             int at = top;
             int held = shown[top];
-            for (int child = 2 * at + 1; child < size; child = 2 * at + 1) {
+            for (int level = 0; level < MOST_LEVELS && 2 * at + 1 < size; level++) {
+                int child = 2 * at + 1;
                 if (child + 1 < size && shown[child + 1] > shown[child]) {
                     child++;
                 }
@@ -1602,6 +1607,24 @@ public final class ClothBack {
 
         /** The BEST light for an EYE by what the front shows and what it is to look like. */
         void search(Cloth cloth, int eye) {
+            sense(cloth, eye);
+            missed = FAR;
+            leastSum = FAR;
+            int mostA = cloth.bright[0] / 10;
+            int mostB = cloth.bright[1] / 10;
+            int mostC = cloth.bright[2] / 10;
+            for (int a = 0; a <= mostA && a < MOST_STEPS; a++) {
+                for (int b = 0; b <= mostB && b < MOST_STEPS; b++) {
+                    if (mayDo(a, b, mostC)) {
+                        for (int c = 0; c <= mostC && c < MOST_STEPS; c++) {
+                            weigh(a, b, c);
+                        }
+                    }
+                }
+            }
+        }
+
+        private void sense(Cloth cloth, int eye) {
             for (int sense = 0; sense < 3; sense++) {
                 wanted[sense] = 0;
                 for (int c = 0; c < 3; c++) {
@@ -1612,32 +1635,39 @@ public final class ClothBack {
                     }
                 }
             }
-            missed = Integer.MAX_VALUE;
-            leastSum = Integer.MAX_VALUE;
-            for (int a = 0; a < MOST_STEPS && a * 10 <= cloth.bright[0]; a++) {
-                for (int b = 0; b < MOST_STEPS && b * 10 <= cloth.bright[1]; b++) {
-                    for (int c = 0; c < MOST_STEPS && c * 10 <= cloth.bright[2]; c++) {
-                        weigh(a, b, c);
-                    }
-                }
-            }
         }
 
         private static int placeOf(int c, int step) {
             return (c * MOST_STEPS + step) * 3;
         }
 
+        /** More of the third light is never seen as less, so its two ends tell whether any of it may do as well. */
+        private boolean mayDo(int a, int b, int mostC) {
+            int placeA = placeOf(0, a);
+            int placeB = placeOf(1, b);
+            int placeC = placeOf(2, mostC);
+            for (int sense = 0; sense < 3; sense++) {
+                int off = sensed[placeA + sense] + sensed[placeB + sense] - wanted[sense];
+                if (off > missed || off + sensed[placeC + sense] < -missed) {
+                    return false;
+                }
+            }
+            return true;
+        }
+
         /** Lights come with a, then b rising: of alike ones the one that came first is the least. */
         private void weigh(int a, int b, int c) {
-            int off = 0;
+            int placeA = placeOf(0, a);
+            int placeB = placeOf(1, b);
+            int placeC = placeOf(2, c);
+            int most = 0;
             for (int sense = 0; sense < 3; sense++) {
-                int sees = sensed[placeOf(0, a) + sense] + sensed[placeOf(1, b) + sense]
-                        + sensed[placeOf(2, c) + sense];
-                off = Math.max(off, Math.abs(sees - wanted[sense]));
+                int sees = sensed[placeA + sense] + sensed[placeB + sense] + sensed[placeC + sense];
+                most = Math.max(most, Math.abs(sees - wanted[sense]));
             }
             int sum = a + b + c;
-            if (off < missed || off == missed && sum < leastSum) {
-                missed = off;
+            if (most < missed || most == missed && sum < leastSum) {
+                missed = most;
                 leastSum = sum;
                 light[0] = a * 10;
                 light[1] = b * 10;
