@@ -299,7 +299,7 @@ public final class ClothBack {
         }
         int least = hoursPast(thread, look, -yarn.cloth.slack);
         int past = hoursPast(thread, look, yarn.cloth.slack + 1);
-        if (!isWithinSlack(thread, look, least) || !isWithinSlack(thread, look, past - 1)) {
+        if (!isWithinSlack(thread, look, least)) {
             return NONE;
         }
         return greatest ? past - 1 : least;
