@@ -58,6 +58,10 @@ public final class LightPromisesTest {
         x.look(0, 0, 0, 90, 90, 90);
         // 150 is wanted; 90 in light gives 9 a step of ten: 17 steps make 153, 16 make 144. 153 is nearer.
         thrownDue(x, "the least sum, then the least a, b", 0, 0, 0, 0, 70, 100, 3);
+        // 100 is wanted of 5 and 2 a step: many lights make it, the first of them in far more light.
+        ClothBack y = Check.of("cloth 1 1;bright 200 200 200;story s hang 1 0 0 0;eye e sees 1 1 0 sees 0 0 0 sees 1 1 0;");
+        y.look(0, 0, 0, 50, 20, 7);
+        thrownDue(y, "a later light of a lesser sum", 0, 0, 0, 200, 0, 0, 0);
     }
 
     private static void cannot() {
