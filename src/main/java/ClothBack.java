@@ -469,6 +469,8 @@ public final class ClothBack {
         if (!mayTell(told) || seed < 0 || !isStory(story)) {
             return RANGE;
         }
+        // A WORLD that is not refused is told at its STEP, also if it has no LOOK to tell.
+        telling.latestStep = told;
         int before = telling.looks;
         if (yarn.cloth.stuffs > 0) {
             chance.state = seed;

@@ -101,9 +101,10 @@ public final class FitPromisesTest {
         CHECK.due("26 no stuffs", x.vats(0, 0), 0);
         CHECK.due("27 no stuffs", x.next(0, 1), ClothBack.NONE);
         CHECK.due("28 no stuffs", x.beside(0, 0, 0, 0), ClothBack.NONE);
-        CHECK.due("32 no stuffs", x.world(0, 1, 0), 0);
-        x.look(0, 0, 0, 1, 1, 1);
-        CHECK.due("24 no stuffs, something known", x.stories(0), 0);
+        CHECK.due("32 no stuffs", x.world(4, 1, 0), 0);
+        CHECK.due("32 no stuffs, told at its step", x.look(3, 0, 0, 1, 1, 1), ClothBack.RANGE);
+        x.look(4, 0, 0, 1, 1, 1);
+        CHECK.due("24 no stuffs, something known", x.stories(4), 0);
         CHECK.due("29 no stuffs", x.thrown(0, 0, 0, 0, 3), 147);
         CHECK.due("31 no stuffs", x.bear(0, 1, 0), 400);
     }

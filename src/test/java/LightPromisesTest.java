@@ -172,6 +172,15 @@ public final class LightPromisesTest {
         CHECK.due("32 the last that has room", x.shows(44, 1, 0, 0) >= 0 ? 1 : 0, 1);
         CHECK.due("32 the first that has none", x.shows(45, 0, 0, 0), ClothBack.NONE);
         CHECK.due("32 no room", x.world(0, 5, 0), 0);
+        CHECK.due("11 full at this step", x.look(0, 0, 0, 1, 1, 1), ClothBack.FULL);
+        CHECK.due("32 no room, at a later step", x.world(7, 5, 0), 0);
+        CHECK.due("32 that has no room is told at its step: world", x.world(6, 5, 0), ClothBack.RANGE);
+        CHECK.due("32 that has no room is told at its step: look", x.look(6, 0, 0, 1, 1, 1), ClothBack.RANGE);
+        CHECK.due("32 that has no room is told at its step: gone", x.gone(6, 0, 0), ClothBack.RANGE);
+        CHECK.due("32 that has no room is told at its step: attempt", x.attempt(6, 0, 1, 1, 1, 1), ClothBack.RANGE);
+        CHECK.due("11 full at that step", x.look(7, 0, 0, 1, 1, 1), ClothBack.FULL);
+        CHECK.due("32 one that is refused", x.world(9, -1, 0), ClothBack.RANGE);
+        CHECK.due("32 that is refused isn't told", x.attempt(7, 0, 1, 1, 1, 1), 0);
         ClothBack y = Check.of("cloth 8 6;stuff a 90 45 9 1000 10 1;story s hang 20 1 1 50;");
         y.look(0, 47, 0, 1, 1, 1);
         CHECK.due("32 one room less", y.world(0, 5, 0), 89);

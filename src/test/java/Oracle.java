@@ -833,6 +833,7 @@ final class Oracle {
             return -2;
         }
         seed = from;
+        step = told;
         int before = looks.size();
         for (int cell = 0; !stuffs.isEmpty() && cell < columns * rows; cell++) {
             int s = draw(stuffs.size());
