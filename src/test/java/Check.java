@@ -1,8 +1,20 @@
+import java.util.ArrayList;
+import java.util.List;
+import java.util.function.Supplier;
+import java.util.function.ToIntFunction;
+
 /** What all tests share: telling a text to a cloth, and counting answers that are not as due. */
 final class Check {
     private final String test;
+    private final List<String[]> quotes = new ArrayList<>();
+    private String about = "";
     private int asked = 0;
     private int wrong = 0;
+
+    /** A call of which one number changes. */
+    interface Asked {
+        int with(int n);
+    }
 
     Check(String test) {
         this.test = test;
@@ -13,7 +25,7 @@ final class Check {
         if (got != want) {
             wrong++;
             if (wrong <= 40) {
-                System.out.println(test + ": " + call + " answered " + got + ", due is " + want);
+                System.out.println(test + ": " + about + call + " answered " + got + ", due is " + want);
             }
         }
     }
@@ -26,8 +38,42 @@ final class Check {
         return wrong;
     }
 
+    /** What is asked from here on tests this sentence, in its own words, of one of the document's parts. */
+    void sentence(String part, String words) {
+        about = part + ", \"" + words + "\": ";
+        quotes.add(new String[] {part, words});
+    }
+
+    /** All sentences that were tested: each its part and its words. */
+    List<String[]> sentences() {
+        return quotes;
+    }
+
+    /** A number is taken from least to most, with these answers at the two ends; what is beyond them is refused. */
+    void ends(String call, Asked asked, int least, int dueLeast, int most, int dueMost, int refusal) {
+        due(call + " by " + least, asked.with(least), dueLeast);
+        due(call + " by " + most, asked.with(most), dueMost);
+        refuses(call, asked, refusal, least - 1, most + 1, Integer.MIN_VALUE, Integer.MAX_VALUE);
+    }
+
+    void refuses(String call, Asked asked, int refusal, int... numbers) {
+        for (int n : numbers) {
+            due(call + " by " + n, asked.with(n), refusal);
+        }
+    }
+
+    /** A call is refused, and all that later calls show is as if nobody had called. */
+    void keepsAll(String call, Supplier<ClothBack> made, ToIntFunction<ClothBack> refused, int refusal) {
+        ClothBack x = made.get();
+        due(call, refused.applyAsInt(x), refusal);
+        String behind = Portrait.of(x);
+        String untouched = Portrait.of(made.get());
+        holds(call + " changed\n " + untouched + "to\n " + behind, behind.equals(untouched));
+    }
+
     void close() {
-        System.out.println(test + ": " + asked + " answers, " + wrong + " not as due");
+        String to = quotes.isEmpty() ? "" : " to " + quotes.size() + " sentences";
+        System.out.println(test + ": " + asked + " answers" + to + ", " + wrong + " not as due");
         if (wrong != 0 || asked == 0) {
             System.exit(1);
         }
