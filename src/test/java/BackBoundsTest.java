@@ -287,6 +287,8 @@ public final class BackBoundsTest {
         nextByHours();
         nextOfAllPairs();
         sameByEachColour();
+        nearColours();
+        blackIsTheSame();
         ClothBack z = Check.of("cloth 2 1;slack 5;mended 1;stuff a 90 0 0 1000 10 1;story s hang 1 15 0 0;");
         z.look(0, 0, 0, 44, 99, 99);
         z.look(0, 1, 0, 64, 99, 99);
@@ -337,6 +339,29 @@ public final class BackBoundsTest {
             check.due("least of cell 1", x.fit(1, 0, 0, 2) * 10 + x.fit(1, 0, 0, 0), 92);
             check.due("colour " + c + " parts: 1 of 2 is less than 2 of 2", x.next(0, 999), 1);
         }
+    }
+
+    /** 88, 99 and 89, 0 are not the same, though joined carelessly they may look so. */
+    private static void nearColours() {
+        String[] stays = {"11 0 0", "0 11 0"};
+        String[] joins = {"10 99 0", "0 10 99"};
+        for (int i = 0; i < 2; i++) {
+            ClothBack x = Check.of("cloth 2 1;slack 20;most 1;stuff a " + stays[i] + " 0 1 9999;stuff b " + joins[i]
+                    + " 0 1 9999;story s hang 1 0 0 0;");
+            x.look(0, 0, 0, i == 0 ? 95 : 99, i == 1 ? 95 : 99, 99);
+            check.due("all of a and one part of b", x.fit(0, 0, 0, 0), 10);
+            check.due("1 of 18 is less than 1 of 10", x.next(0, 1), 1);
+        }
+    }
+
+    /** All that is black shows the same as well as all that isn't. */
+    private static void blackIsTheSame() {
+        ClothBack x = Check.of("cloth 2 1;stuff a 99 99 99 0 1 9999;stuff b 99 99 99 0 1 9999;story s hang 1 0 0 0;");
+        x.look(0, 0, 0, 0, 0, 0);
+        x.look(0, 1, 0, 66, 66, 66);
+        check.due("nine parts or more", x.fit(0, 0, 0, 1), 2 + 53);
+        check.due("three parts", x.fit(1, 0, 0, 1), 4);
+        check.due("55 of 55 and 4 of 4 are alike: the least", x.next(0, 1), 0);
     }
 
     private static final String GONE = "GONE: what a CELL was by those beside it (8 at most): for each THREAD that is"

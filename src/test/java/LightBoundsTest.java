@@ -116,6 +116,8 @@ public final class LightBoundsTest {
         // The third sense misses 50 in no light of its own: then the others may miss as much.
         thrownDue(greyCell("200 200 0", SENSES, 50, 50, 50), "the least sum", 0, 0, 0, 0, 50);
         thrownDue(greyCell("200 200 10", SENSES, 50, 50, 50), "the least sum for 45", 0, 10, 10, 10, 45);
+        // 5 and 2 a step of ten make 100 in many lights; the last of them, a alone, is the least in sum.
+        thrownDue(greyCell("200 200 200", both, 50, 20, 7), "the least sum, though the greatest a", 0, 200, 0, 0, 0);
         // 99 and 101 of 100 are missed alike, 99 in light of 100 alone: the sum goes ahead of the least a.
         thrownDue(greyCell("200 200 0", both, 99, 20, 0), "the least sum, though not the least a", 0, 100, 0, 0, 1);
     }
